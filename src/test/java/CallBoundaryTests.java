@@ -66,6 +66,8 @@ public final class CallBoundaryTests {
         whatStaysBehindARestore();
         counts();
         throwingChangesNothing();
+        allSixOfEach();
+        fewerBehindSix();
         Check.end("CallBoundaryTests");
     }
 
@@ -570,6 +572,15 @@ public final class CallBoundaryTests {
         Check.due("book(1)", Feeder.book(x, "minute 1;", 1), 0);
         Check.due("undo() of the last that went by", x.undo(), 2);
         Check.due("now(0)", x.now(0), 1998);
+        // one MINUTE is enough
+        x.minutes(1);
+        Check.due("drawn(5, 5) at 1999", x.drawn(5, 5), 1);
+        Check.due("undo() of it", x.undo(), 3);
+        Check.due("now(0)", x.now(0), 1999);
+        Check.due("minutes(999) at 1999", x.minutes(999), 1);
+        Check.due("undo() of it", x.undo(), 3);
+        Check.due("book(1) at 1999", Feeder.book(x, "minute 1;", 1), NONE);
+        Check.due("undo() of it", x.undo(), 3);
     }
 
     private static void eightAreKept() {
@@ -1187,6 +1198,23 @@ public final class CallBoundaryTests {
         dueSaid(x, "corner = 2", 4);
         dueSaid(x, "came = 0", 63);
         dueSaid(x, "going", 0);
+        // 'number < 3' of bits 7, 'by d' of bits 42, 'number > 1' of bits 60
+        dueSaid(x, "not by d", 21);
+        dueSaid(x, "not not by d", 42);
+        dueSaid(x, "not number < 3", 56);
+        dueSaid(x, "number < 3 or by d and number > 1", 47);
+        dueSaid(x, "number < 3 and by d or number > 1", 62);
+        dueSaid(x, "number < 3 and(by d or number > 1)", 6);
+        dueSaid(x, "(number < 3 or by d)and number > 1", 44);
+        dueSaid(x, "not number < 3 and by d", 40);
+        dueSaid(x, "not(number < 3 and by d)", 61);
+        dueSaid(x, "not number < 3 or not by d", 61);
+        dueSaid(x, "number < 3 or by d or number > 1", 63);
+        dueSaid(x, "number < 3 and by d and number > 1", 0);
+        dueSaid(x, "number < 3 or not by d and number > 1", 23);
+        dueSaid(x, "number < 3 or(by d and(number > 1 or number < 3))", 47);
+        dueSaid(x, "number < 3 and not(by d or not number > 1)", 4);
+        dueSaid(x, "out or by d and number > 1 and number < 5", 8);
         x.minutes(10);
         // h has set out by d, two ahead, in MINUTE 9, and comes in MINUTE 10; g sets out and comes in MINUTE 10
         dueSaid(x, "going", 2);
@@ -1194,6 +1222,12 @@ public final class CallBoundaryTests {
         dueSaid(x, "going", 0);
         dueSaid(x, "came = 1", 3);
         dueSaid(x, "came > 1", 0);
+        // to f, h sets out by d in MINUTE 30: he has come to e, and is on his way again
+        x.minutes(20);
+        dueSaid(x, "going and came = 1", 2);
+        x.minutes(1);
+        dueSaid(x, "going", 0);
+        dueSaid(x, "came = 2", 2);
         x.minutes(999);
         dueSaid(x, "came = 2", 2);
         dueSaid(x, "came < 1", 28);
@@ -1349,5 +1383,130 @@ public final class CallBoundaryTests {
         Check.due("wrong(0)", x.wrong(0), 0);
         Check.due("master(0, 1)", x.master(0, 1), 1);
         Check.due("undo()", x.undo(), 0);
+    }
+
+    /** Six of each, all told to come to all; each MASTER's LATE is his number and 1, each MEET is DUE 100 behind the last. */
+    private static String full() {
+        StringBuilder text = new StringBuilder();
+        for (int i = 0; i < 6; i++) {
+            text.append("clock ").append((char) ('a' + i)).append(' ').append(5 * i).append(" fast ").append(i + 1).append(';');
+            text.append("meet ").append((char) ('h' + i)).append(' ').append(100 * i + 50).append(';');
+        }
+        for (int i = 0; i < 6; i++) {
+            text.append("master ").append((char) ('u' + i)).append(' ').append(30 - i).append(' ').append(i + 1);
+            text.append(' ').append((char) ('a' + i)).append(';');
+        }
+        for (int i = 0; i < 36; i++) {
+            text.append("comes ").append((char) ('u' + i % 6)).append(' ').append((char) ('h' + i / 6)).append(';');
+        }
+        return text.toString();
+    }
+
+    /** In MINUTE DUE all set out; MASTER m comes 30 - m minutes behind it. */
+    private static void allSixOfEach() {
+        Check.words("6 CLOCKS, 6 MASTERS, 6 MEETS at most, numbered from 0 each.");
+        LateMasters x = Check.town(full());
+        x.minutes(10);
+        x.image(0);
+        for (int e = 0; e < 6; e++) {
+            Check.due("all(" + e + ")", x.all(e), 100 * e + 80);
+            Check.due("missed(" + e + ")", x.missed(e), 63);
+            Check.due("caught(" + e + ")", x.caught(e), 0);
+            Check.due("plan(" + e + ", 240)", x.plan(e, 240), 220);
+            for (int m = 0; m < 6; m++) {
+                Check.due("comes(" + m + ", " + e + ")", x.comes(m, e), 100 * e + 80 - m);
+            }
+        }
+        Check.due("worst()", x.worst(), 5);
+        Check.due("alike()", x.alike(), NONE);
+        Check.due("tend(0, 0)", x.tend(0, 0), 30);
+        Check.due("tend(5, 0)", x.tend(5, 0), 25);
+        Check.due("tend(5, 5)", x.tend(5, 5), 0);
+        Check.due("tend(0, 5)", x.tend(0, 5), 5);
+        x.minutes(999);
+        dueAllCame(x);
+        Check.due("undo()", x.undo(), 1);
+        Check.due("now(4) undone", x.now(4), 0);
+        x.minutes(560);
+        // each has come to five MEETS and is on his way to the sixth
+        Feeder.sentence(x, "going and came = 5");
+        Check.due("said(NONE)", x.said(NONE), 6);
+        Check.due("now(4)", x.now(4), 36 - 6);
+        x.image(1);
+        x.restore(0);
+        Check.due("now(4) restored", x.now(4), 0);
+        Check.due("said(NONE) restored", x.said(NONE), NONE);
+        x.restore(1);
+        Check.due("now(4) restored", x.now(4), 30);
+        for (int e = 0; e < 6; e++) {
+            Check.due("meet(" + e + ", 2) restored", x.meet(e, 2), 63);
+            Check.due("meet(" + e + ", 3) restored", x.meet(e, 3), e < 5 ? 63 : 0);
+            Check.due("comes(5, " + e + ") restored", x.comes(5, e), 100 * e + 75);
+        }
+        x.minutes(999);
+        dueAllCame(x);
+        Check.due("undo()", x.undo(), 0);
+        for (int m = 0; m < 6; m++) {
+            Check.due("master(" + m + ", 5)", x.master(m, 5), 63);
+            Check.due("master(" + m + ", 6)", x.master(m, 6), 31);
+        }
+        Check.due("book(1)", Feeder.book(x, "z sets f;stop f;minute 900;start f;", 1), NONE);
+        dueAllCame(x);
+    }
+
+    private static void dueAllCame(LateMasters x) {
+        Check.due("now(1)", x.now(1), 0);
+        Check.due("now(4)", x.now(4), 36);
+        Check.due("now(5)", x.now(5), 6 * (30 + 29 + 28 + 27 + 26 + 25));
+        Check.due("mean(0)", x.mean(0), 55);
+        Check.due("mean(1)", x.mean(1), 2);
+        Check.due("latest()", x.latest(), 0);
+        Check.due("latestBy()", x.latestBy(), 30);
+        for (int m = 0; m < 6; m++) {
+            Check.due("master(" + m + ", 6)", x.master(m, 6), 63);
+            Check.due("meet(" + m + ", 3)", x.meet(m, 3), 63);
+        }
+    }
+
+    private static void fewerBehindSix() {
+        Check.words("A new BURGH: MINUTE 0, nobody has set out, nothing STOPPED, no SENTENCE.");
+        LateMasters x = Check.town(full());
+        x.minutes(999);
+        for (int c = 0; c < 6; c++) {
+            x.stop(c);
+        }
+        Feeder.burgh(x, "clock a 0;clock b 7;master m 3 1 a;meet e 50;meet f 60;comes m e;");
+        for (int what = 0; what < 6; what++) {
+            Check.due("now(" + what + ")", x.now(what), what == 3 ? 3 : 0);
+        }
+        Check.due("worst()", x.worst(), NONE);
+        Check.due("tend(0, 0)", x.tend(0, 0), 0);
+        Check.due("alike()", x.alike(), 0);
+        Check.due("latest()", x.latest(), NONE);
+        Check.dueThrow("mean(0)", () -> x.mean(0));
+        Check.due("master(0, 4)", x.master(0, 4), 1);
+        Check.due("master(0, 6)", x.master(0, 6), 0);
+        Check.due("meet(1, 1)", x.meet(1, 1), 0);
+        Check.due("meet(0, 1)", x.meet(0, 1), 1);
+        Check.due("clock(1, 3)", x.clock(1, 3), 0);
+        Check.due("clock(0, 4)", x.clock(0, 4), 1);
+        Check.due("clock(1, 4)", x.clock(1, 4), 0);
+        Check.due("clock(2, 0)", x.clock(2, 0), NONE);
+        Check.due("face(2)", x.face(2), NONE);
+        Check.due("time() of CLOCK 2", Feeder.time(x, 2, 0, 0), NONE);
+        Check.due("all(0)", x.all(0), 54);
+        Check.due("all(1)", x.all(1), NONE);
+        Check.due("comes(0, 1)", x.comes(0, 1), NONE);
+        Feeder.sentence(x, "not out");
+        Check.due("said(NONE)", x.said(NONE), 1);
+        Check.due("book(0)", Feeder.book(x, "stop c;", 0), -7);
+        x.minutes(60);
+        Check.due("now(4)", x.now(4), 1);
+        Check.due("now(5)", x.now(5), 4);
+        Check.due("now(3)", x.now(3), 3);
+        for (int seed = 0; seed < 30; seed++) {
+            x.drawn(1, seed);
+            Check.due("now(2) is of two CLOCKS", x.now(2) & ~3, 0);
+        }
     }
 }

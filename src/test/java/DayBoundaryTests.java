@@ -22,6 +22,7 @@ public final class DayBoundaryTests {
         theLastMinute();
         readsAsMuch();
         readsAsMuchForOneMinute();
+        readsMoreAtTheEndOfItsHour();
         setsOutOnce();
         cornersAway();
         notBehindDue();
@@ -350,6 +351,35 @@ public final class DayBoundaryTests {
         Check.due("meet(1, 2)", x.meet(1, 2), 0);
         x.minutes(1);
         Check.due("meet(1, 2)", x.meet(1, 2), 1);
+    }
+
+    private static void readsMoreAtTheEndOfItsHour() {
+        Check.words("and M more (loses: less) for each 60 whole minutes since then");
+        // it would READ 65 in MINUTE 65, but gains 9 in MINUTE 60: asked for from each MINUTE ahead of that
+        for (int minute = 0; minute <= 60; minute++) {
+            LateMasters x = Check.town("clock c 0 gains 9;master m 0 1 c;meet e 64;comes m e;");
+            Check.pass(x, minute);
+            Check.due("comes(0, 0) at " + minute, x.comes(0, 0), 60);
+            x.minutes(60 - minute);
+            Check.due("meet(0, 2) ahead of MINUTE 60", x.meet(0, 2), 0);
+            x.minutes(1);
+            Check.due("meet(0, 2) behind MINUTE 60", x.meet(0, 2), 1);
+        }
+        // SET 60 behind in MINUTE 7, it READS 67 - 60 + 9 = 16 in MINUTE 67, by which DUE could be 15, if that is ahead
+        for (int minute = 7; minute <= 67; minute++) {
+            LateMasters x = Check.town("clock c 0 gains 9;master m 0 60 c;master n 0 1 c;meet e 14;comes n e;");
+            x.minutes(7);
+            x.set(0, 0);
+            Check.pass(x, minute - 7);
+            Check.due("comes(1, 0) at " + minute, x.comes(1, 0), 67);
+            Check.due("plan(0, " + (67 - minute) + ") at " + minute, x.plan(0, 67 - minute), minute < 15 ? 15 : NONE);
+        }
+        // one that loses 9 in MINUTE 60 READS 59 in MINUTE 59 and again in MINUTE 68, 60 in MINUTE 69
+        for (int minute = 0; minute <= 69; minute++) {
+            LateMasters x = Check.town("clock c 0 loses 9;master m 0 1 c;meet e 59;comes m e;");
+            Check.pass(x, minute);
+            Check.due("comes(0, 0) at " + minute, x.comes(0, 0), 69);
+        }
     }
 
     private static void setsOutOnce() {

@@ -722,6 +722,8 @@ public final class ForesightBoundaryTests {
         LateMasters none = new LateMasters();
         Check.due("drawn(24, 1) of nothing", none.drawn(24, 1), 1440);
         Check.due("drawn(24, 1) of nothing", none.drawn(24, 1), 560);
+        Check.due("now(2) of nothing", none.now(2), 0);
+        Check.due("now(3) of nothing", none.now(3), 0);
         Check.due("drawn(24, 1) of MEETS alone", Check.town("meet e 5;").drawn(24, 1), 1440);
         // without MASTERS an hour of 1 takes one draw alone, an hour of 0 two
         for (int seed = 0; seed < 400; seed++) {
@@ -796,6 +798,17 @@ public final class ForesightBoundaryTests {
         Feeder.burgh(y, ONE);
         Check.due("wrong(0)", y.wrong(0), 0);
         Check.due("meet(0, 0)", y.meet(0, 0), 9);
+        // its hours are counted from MINUTE 0, whenever a CLOCK was SET ahead of it
+        LateMasters w = Check.town("clock c 0;clock d 0;master m 0 1 c;");
+        w.minutes(50);
+        w.set(0, 0);
+        w.stop(1);
+        w.minutes(5);
+        w.start(1);
+        Feeder.burgh(w, "clock c 0 gains 3;clock d 0 loses 3;");
+        w.minutes(60);
+        Check.due("wrong(0) at 60", w.wrong(0), 3);
+        Check.due("wrong(1) at 60", w.wrong(1), -3);
         // a BURGH with a FAULT leaves all
         LateMasters z = early();
         Feeder.sentence(z, "out");

@@ -196,6 +196,11 @@ public final class TermsBoundaryTests {
         burghFault(" ".repeat(894) + "wait 7;", 900, 1);
         burghFine(" ".repeat(900), 0);
         burghFault(" ".repeat(901), 900, 1);
+        // as many TOKENS as bytes
+        for (int bytes : new int[] {899, 900, 901, 940}) {
+            burghFault(";".repeat(bytes), 0, 1);
+            burghFault("wait 5;" + ";".repeat(bytes - 7), 7, 1);
+        }
     }
 
     private static void linesOfABurgh() {
@@ -411,6 +416,8 @@ public final class TermsBoundaryTests {
         bookFault(" ".repeat(392) + "minute 3;", 400, 1);
         bookFault(" ".repeat(401), 400, 1);
         Check.due("told(1) of blanks", bookFine(" ".repeat(400)).told(1), 0);
+        bookFault("<".repeat(400), 0, 1);
+        bookFault("<".repeat(940), 0, 1);
     }
 
     private static void linesOfABook() {
@@ -453,6 +460,8 @@ public final class TermsBoundaryTests {
         sentenceFault(" ".repeat(196) + "right", 200, 1);
         sentenceFault(" ".repeat(200), 200, 1);
         sentenceFault("", 0, 1);
+        sentenceFault(")".repeat(200), 0, 1);
+        sentenceFault(")".repeat(940), 0, 1);
     }
 
     private static void numbersOfASentence() {
